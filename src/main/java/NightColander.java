@@ -568,7 +568,7 @@ public final class NightColander {
         }
 
         Text lawInForce() {
-            return hasLaw(inForce) ? laws[inForce] : null;
+            return inForce >= 0 && inForce < MOST_LAWS ? laws[inForce] : null;
         }
 
         int fieldBelow(int ring, int hole) {
@@ -821,7 +821,7 @@ public final class NightColander {
 
         int markOf(int clause, int part) {
             int at = clause * MARKS + part;
-            return within(at, 0, marks.length - 1) ? marks[at] : 0;
+            return at >= 0 && at < marks.length ? marks[at] : 0;
         }
     }
 
@@ -1267,9 +1267,11 @@ public final class NightColander {
                         }
                         result = operation == Text.LEFT ? left % right : left / right;
                         break;
+                    case Text.BELOW:
+                        result = left < right ? 1 : 0;
+                        break;
                     default:
-                        boolean so = operation == Text.BELOW ? left < right : operation == Text.ABOVE ? left > right : left == right;
-                        result = so ? 1 : 0;
+                        result = (operation == Text.ABOVE ? left > right : left == right) ? 1 : 0;
                         break;
                 }
                 if (result > MOST || result < -MOST) {
@@ -1556,6 +1558,8 @@ public final class NightColander {
         private static final int LONGEST_WAIT = 60;
         private static final int MOST_HOURS = 9;
         private static final int ALL_SETTINGS = 4096;
+        // Where the shares of the last ring begin.
+        private static final int LAST_RING = (RINGS - 1) * HOLES * FIELDS;
         private static final long WHOLE = 1000000000000L;
 
         private final Judge judge;
@@ -1566,7 +1570,8 @@ public final class NightColander {
         private final int[] falls = new int[MOST_HOURS * FIELDS];
         // What a bucket catches on a field, NONE where it is barred: at bucket * 8 + field.
         private final int[] catches = new int[MOST_BUCKETS * FIELDS];
-        private final int[] fitting = new int[ALL_SETTINGS / 32];
+        // Settings that fit what was seen: at the turns of rings 0 .. 2, those of ring 3 as bits.
+        private final int[] fitting = new int[ALL_SETTINGS / HOLES];
         private final int[] tally = new int[MOST_THREADS + 1];
         private final long[] chances = new long[20];
         // What the latest search found: how much, and which, as octal digits, a field or bits.
@@ -1680,10 +1685,13 @@ public final class NightColander {
 
         // A setting has the turn of ring 0 as its highest octal digit, so rows of turns go up with it.
         private int threadsBy(int setting, int field) {
-            return shares[((setting >> 9) & 7) * FIELDS + field]
-                    + shares[(8 + ((setting >> 6) & 7)) * FIELDS + field]
-                    + shares[(16 + ((setting >> 3) & 7)) * FIELDS + field]
-                    + shares[(24 + (setting & 7)) * FIELDS + field];
+            return threadsByThree(setting >> 3, field) + shares[LAST_RING + (setting & 7) * FIELDS + field];
+        }
+
+        private int threadsByThree(int three, int field) {
+            return shares[((three >> 6) & 7) * FIELDS + field]
+                    + shares[(HOLES + ((three >> 3) & 7)) * FIELDS + field]
+                    + shares[(2 * HOLES + (three & 7)) * FIELDS + field];
         }
 
         private boolean fitsSeen(Night night, int setting) {
@@ -1731,13 +1739,14 @@ public final class NightColander {
 
         private boolean findFitting(Night night) {
             findShares(night);
-            Arrays.fill(fitting, 0);
             boolean any = false;
-            for (int setting = 0; setting < ALL_SETTINGS; setting++) {
-                if (fitsSeen(night, setting)) {
-                    fitting[setting >> 5] |= 1 << (setting & 31);
-                    any = true;
+            for (int three = 0; three < fitting.length; three++) {
+                int bits = 0;
+                for (int last = 0; last < HOLES; last++) {
+                    bits |= fitsSeen(night, three * HOLES + last) ? 1 << last : 0;
                 }
+                fitting[three] = bits;
+                any |= bits != 0;
             }
             return any;
         }
@@ -1745,11 +1754,17 @@ public final class NightColander {
         private int mostAlike(int field) {
             Arrays.fill(tally, 0);
             int most = 0;
-            for (int setting = 0; setting < ALL_SETTINGS; setting++) {
-                if ((fitting[setting >> 5] & (1 << (setting & 31))) != 0) {
-                    int threads = threadsBy(setting, field);
-                    tally[threads]++;
-                    most = Math.max(most, tally[threads]);
+            for (int three = 0; three < fitting.length; three++) {
+                if (fitting[three] == 0) {
+                    continue;
+                }
+                int byThree = threadsByThree(three, field);
+                for (int last = 0; last < HOLES; last++) {
+                    int threads = byThree + shares[LAST_RING + last * FIELDS + field];
+                    if ((fitting[three] & (1 << last)) != 0 && threads < tally.length) {
+                        tally[threads]++;
+                        most = Math.max(most, tally[threads]);
+                    }
                 }
             }
             return most;
@@ -1758,11 +1773,13 @@ public final class NightColander {
         boolean findTurns(Night night) {
             findShares(night);
             best = NONE;
-            for (int setting = 0; setting < ALL_SETTINGS; setting++) {
-                int steps = stepsTo(night, setting);
-                if ((best == NONE || steps < best) && givesWanted(night, setting)) {
-                    best = steps;
-                    choice = setting;
+            for (int setting = 0; setting < ALL_SETTINGS && best != 0; setting++) {
+                if (givesWanted(night, setting)) {
+                    int steps = stepsTo(night, setting);
+                    if (best == NONE || steps < best) {
+                        best = steps;
+                        choice = setting;
+                    }
                 }
             }
             return best != NONE;
