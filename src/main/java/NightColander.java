@@ -692,7 +692,8 @@ public final class NightColander {
             kept--;
             int at = kept * WIDTH;
             int deed = rows[at];
-            int hole = Math.floorMod(rows[at + 2] * HOLES + rows[at + 1], RINGS * HOLES);
+            // Of the other deeds the two numbers are no hole and no ring.
+            int hole = deed == BLOCK || deed == REAM ? rows[at + 2] * HOLES + rows[at + 1] : 0;
             switch (deed) {
                 case BLOCK:
                     night.blocked[hole] = !night.blocked[hole];
@@ -1328,6 +1329,7 @@ public final class NightColander {
             return night.blocked[ring * HOLES + hole] ? 0 : runsOf(night, ring, hole);
         }
 
+        // Not by runsAbove(), which would make the longest chain of calls longer.
         int threadsOn(Night night, int field) {
             int sum = 0;
             for (int r = 0; r < RINGS; r++) {

@@ -320,6 +320,11 @@ public final class PromisesTest {
         fault("runs done", 5);
         fault("runs wets", 5);
         fault("runs we", 5);
+        fault("runs wetz", 5);
+        fault("runs weta", 5);
+        fault("runs 1`", 6);
+        fault("runs 1{", 6);
+        fault("runs 1:", 6);
         fault("runs 1 times 2", 7);
         fault("runs\t1", 4);
         fault("runs 1\n", 6);
@@ -577,6 +582,11 @@ public final class PromisesTest {
         orderFault(fifty + ";pass times 20;pass", NONE);
         orderFault(fifty + ";block 1 of 1", fifty.length() + 7);
         orderFault(fifty + " or turn 9", fifty.length() + 4);
+        orderFault("pass if " + times("(", 8) + "1=1" + times(")", 8), NONE);
+        orderFault("pass if " + times("(", 9) + "1=1" + times(")", 9), 16);
+        orderFault("block " + times("[", 8) + "1" + times("]", 8) + " of " + times("[", 8) + "1" + times("]", 8), NONE);
+        orderFault("block " + times("[", 9) + "1" + times("]", 9) + " of 1", 14);
+        orderFault("block 1 of " + times("[", 9) + "1" + times("]", 9), 19);
         String twelve = "pass" + times(";pass", 11);
         orderFault(twelve, NONE);
         orderFault(twelve + ";pass", 60);
