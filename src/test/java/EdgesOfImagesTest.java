@@ -396,6 +396,15 @@ public final class EdgesOfImagesTest {
         refused(x, 0, 0, 0, 0, 3);
     }
 
+    // "An object is used for at most 512 calls"
+    static void promise41AllCallsRefused() {
+        NightColander x = new NightColander();
+        for (int i = 0; i < 500; i++) {
+            x.undo();
+        }
+        refused(x, 0, 0, 500, 0, 0);
+    }
+
     private static void refused(NightColander x, int... due) {
         for (int i = 0; i < 5; i++) {
             t.due("count " + (7 + i), x.count(7 + i), due[i]);

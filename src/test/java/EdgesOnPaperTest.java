@@ -423,6 +423,17 @@ public final class EdgesOnPaperTest {
         t.due("all alike", new NightColander().look(1), 4096);
     }
 
+    // All fields alike, behind another search that found something else.
+    static void promise28LowestBehindOthers() {
+        NightColander x = Trial.withBuckets("bars if field<5", 9);
+        x.turn(0, 7);
+        t.due("turned", x.turned(0), 7);
+        t.due("look", x.look(0), 0);
+        t.due("placed", x.placed(1, 1), 5);
+        t.due("look", x.look(0), 0);
+        t.due("left", x.look(1), 4096);
+    }
+
     static void promise28LastField() {
         NightColander x = Trial.under("runs 0;runs hole if field=7 and ring=0");
         t.due("field", x.look(0), 7);
@@ -539,6 +550,15 @@ public final class EdgesOnPaperTest {
         z.wanted(7, 1);
         t.due("ring 3 to 7", z.turned(3), 7);
         t.due("ring 0 stays", z.turned(0), 0);
+    }
+
+    static void promise29FirstOfManyRows() {
+        NightColander x = Trial.under("runs 0;runs 1 if hole=0 or hole=6");
+        x.wanted(7, 4);
+        t.due("each by one, either way", x.turned(NONE), 4);
+        for (int r = 0; r < 4; r++) {
+            t.due("ring " + r, x.turned(r), 1);
+        }
     }
 
     static void promise29MostSteps() {
