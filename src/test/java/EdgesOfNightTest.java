@@ -621,6 +621,13 @@ public final class EdgesOfNightTest {
         x.end(8);
         Trial.feed(x, "3=3");
         t.due("others behind the first 8", x.law(), 1);
+        Trial.feed(x, "runs 12");
+        x.end(6);
+        x.force(x.law());
+        t.due("a number that is cut", x.hole(0, 0, 3), 1);
+        Trial.feed(x, "barsx");
+        x.end(4);
+        t.due("a word that is cut", x.law(), 3);
     }
 
     // "-6 the TAPE is empty."

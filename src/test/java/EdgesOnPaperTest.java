@@ -717,6 +717,10 @@ public final class EdgesOnPaperTest {
         for (int f = 0; f < 8; f++) {
             t.due("field " + f, x.luck(f), f);
         }
+        NightColander y = Trial.under("runs 7-field");
+        for (int f = 0; f < 8; f++) {
+            t.due("field " + f + " the other way round", y.luck(f), 7 - f);
+        }
     }
 
     static void promise33RingTooSmall() {
