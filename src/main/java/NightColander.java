@@ -1219,11 +1219,11 @@ public final class NightColander {
         private static final int MOST = 1000000000;
         private final int[] stack = new int[64];
 
-        // Calls nothing of its own, as it stands at the end of the longest chain of calls.
+        // Calls nothing, not even Math's, as it stands at the end of the longest chain of calls.
         int work(Text text, int from, int to, int[] words) {
             int top = NONE;
-            int behind = Math.min(to, text.length);
-            for (int at = Math.max(from, 0); at < behind; at++) {
+            int behind = to < text.length ? to : text.length;
+            for (int at = from > 0 ? from : 0; at < behind; at++) {
                 int operation = text.steps[at] & 15;
                 int with = text.steps[at] >> 4;
                 if (operation == Text.NUMBER || operation == Text.WORD) {
@@ -1247,16 +1247,14 @@ public final class NightColander {
                     case Text.AND:
                     case Text.OR:
                         if (right == (operation == Text.OR ? 1 : 0)) {
-                            at = Math.max(at, with - 1);
+                            at = with > at ? with - 1 : at;
                         } else {
                             top--;
                         }
                         continue;
                     case Text.PLUS:
-                        result = left + right;
-                        break;
                     case Text.MINUS:
-                        result = left - right;
+                        result = operation == Text.PLUS ? left + right : left - right;
                         break;
                     case Text.TIMES:
                         result = left * right;

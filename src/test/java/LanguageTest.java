@@ -6,9 +6,14 @@ import java.lang.reflect.Method;
 import java.lang.reflect.Modifier;
 import java.nio.file.Files;
 import java.nio.file.Path;
+import java.util.ArrayDeque;
+import java.util.ArrayList;
 import java.util.Arrays;
+import java.util.Deque;
 import java.util.List;
+import java.util.Map;
 import java.util.Set;
+import java.util.TreeMap;
 import java.util.TreeSet;
 import java.util.regex.Matcher;
 import java.util.regex.Pattern;
@@ -25,6 +30,7 @@ public final class LanguageTest {
         "transient", "var", "yield", "instanceof", "System\\.(?!arraycopy)\\w+", "Math\\.\\w+Exact", "->", "::", "\\+ \"", "\" \\+",
         "hashCode", "toString", "Random", "Thread", "Object", "String\\[\\]", "@\\w+"};
     private static final Set<String> LIBRARY = Set.of("Arrays.fill", "Arrays.copyOf", "Math.min", "Math.max", "Math.floorMod", "Integer.bitCount", "Integer.MIN_VALUE", "System.arraycopy");
+    private static final Set<String> RECURSIVE = Set.of("readTest", "readBoth", "readPlain", "readTestInBrackets", "readSum", "readTerm", "readPart", "readSumInBrackets");
     private static final Trial t = new Trial("LanguageTest");
 
     public static void main(String[] args) throws IOException {
@@ -65,7 +71,7 @@ public final class LanguageTest {
     }
 
     private static List<Class<?>> all() {
-        List<Class<?>> all = new java.util.ArrayList<>(Arrays.asList(NightColander.class.getDeclaredClasses()));
+        List<Class<?>> all = new ArrayList<>(Arrays.asList(NightColander.class.getDeclaredClasses()));
         all.add(NightColander.class);
         return all;
     }
@@ -112,6 +118,7 @@ public final class LanguageTest {
             t.due("rule 4: sign at " + i, one == '\n' || (one >= 32 && one < 127) ? 1 : 0, 1);
         }
         lengths(whole.split("\n"));
+        chains(bare.split("\n"));
     }
 
     private static void lengths(String[] lines) {
@@ -120,9 +127,93 @@ public final class LanguageTest {
             if (lines[i].matches(" {4}( {4})?[A-Za-z].*\\) \\{")) {
                 start = i;
             } else if (lines[i].matches(" {4}( {4})?\\}") && start >= 0) {
-                t.due("rule 11: length of " + lines[start].trim(), Math.max(64, i - start), 64);
+                t.due("rule 11: length of " + lines[start].trim(), Math.max(60, i - start), 60);
                 start = -1;
             }
         }
+    }
+
+    // Methods by their names alone: those of one name count as one, so chains come out too long rather than too short.
+    private static void chains(String[] lines) {
+        Map<String, Set<String>> calls = callsByName(lines);
+        Set<String> recursive = new TreeSet<>();
+        for (String name : calls.keySet()) {
+            if (reach(calls, name).contains(name)) {
+                recursive.add(name);
+            }
+        }
+        t.due("rule 8: recursion by " + recursive, recursive.equals(RECURSIVE) ? 1 : 0, 1);
+        for (String one : FACE) {
+            String name = one.substring(0, one.indexOf(' '));
+            t.due("the text of " + name + " was found", calls.containsKey(name) ? 1 : 0, 1);
+        }
+        for (String name : calls.keySet()) {
+            List<String> chain = longest(calls, name, recursive, new TreeMap<>());
+            t.due("rule 11: chain " + chain, Math.max(8, chain.size()), 8);
+        }
+    }
+
+    private static Map<String, Set<String>> callsByName(String[] lines) {
+        Map<String, Set<String>> calls = new TreeMap<>();
+        Pattern head = Pattern.compile(" {4}(?: {4})?(?:[a-zA-Z\\[\\]]+ )*([a-zA-Z]+)\\([^()]*\\) \\{");
+        for (String line : lines) {
+            Matcher m = head.matcher(line);
+            if (m.matches()) {
+                calls.putIfAbsent(m.group(1), new TreeSet<>());
+            }
+        }
+        String within = "";
+        for (String line : lines) {
+            Matcher m = head.matcher(line);
+            if (m.matches()) {
+                within = m.group(1);
+            } else if (line.matches(" {4}(?: {4})?\\}")) {
+                within = "";
+            } else if (!within.isEmpty()) {
+                Matcher call = Pattern.compile("(?<!Math\\.|Arrays\\.|System\\.|Integer\\.)\\b([a-zA-Z]+)\\(").matcher(line);
+                while (call.find()) {
+                    calls.get(within).add(call.group(1));
+                }
+                calls.get(within).retainAll(calls.keySet());
+            }
+        }
+        return calls;
+    }
+
+    private static Set<String> reach(Map<String, Set<String>> calls, String from) {
+        Set<String> met = new TreeSet<>();
+        Deque<String> open = new ArrayDeque<>(calls.get(from));
+        while (!open.isEmpty()) {
+            String one = open.pop();
+            if (met.add(one)) {
+                open.addAll(calls.get(one));
+            }
+        }
+        return met;
+    }
+
+    private static List<String> longest(Map<String, Set<String>> calls, String from, Set<String> recursive, Map<String, List<String>> known) {
+        if (known.containsKey(from)) {
+            return known.get(from);
+        }
+        // Within a recursion the way goes on by the calls that leave it.
+        Set<String> next = new TreeSet<>(calls.get(from));
+        if (recursive.contains(from)) {
+            for (String one : reach(calls, from)) {
+                next.addAll(recursive.contains(one) ? calls.get(one) : Set.of());
+            }
+            next.removeAll(recursive);
+        }
+        List<String> best = List.of();
+        for (String one : next) {
+            List<String> chain = longest(calls, one, recursive, known);
+            best = chain.size() > best.size() ? chain : best;
+        }
+        List<String> whole = new ArrayList<>(best);
+        if (!recursive.contains(from)) {
+            whole.add(0, from);
+        }
+        known.put(from, whole);
+        return whole;
     }
 }

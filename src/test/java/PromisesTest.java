@@ -4,52 +4,12 @@ public final class PromisesTest {
     private static final int[] WRONG = {-2, -1000000, Integer.MIN_VALUE, 1001, 100000, Integer.MAX_VALUE};
     private static final Trial t = new Trial("PromisesTest");
 
-    public static void main(String[] args) {
-        newObject();
-        hole();
-        turn();
-        bucket();
-        of();
-        wanted();
-        flow();
-        terms();
-        tape();
-        row();
-        law();
-        lawFaults();
-        lawLimits();
-        sumsAndTests();
-        clausesThatHold();
-        orders();
-        ordersThatStop();
-        orderFaults();
-        force();
-        block();
-        ream();
-        set();
-        pass();
-        undo();
-        undoKeepsSixteen();
-        when();
-        placed();
-        seenAndSettings();
-        look();
-        turned();
-        cleared();
-        drought();
-        luck();
-        together();
-        settled();
-        few();
-        worth();
-        years();
-        images();
-        count();
-        status();
+    public static void main(String[] args) throws ReflectiveOperationException {
+        t.runNamed(PromisesTest.class, 1, 42);
         t.end();
     }
 
-    private static void newObject() {
+    static void promise01NewObject() {
         NightColander x = new NightColander();
         t.due("P1 NONE", NightColander.NONE, -1);
         for (int what = 0; what <= 11; what++) {
@@ -74,7 +34,7 @@ public final class PromisesTest {
         }
     }
 
-    private static void hole() {
+    static void promise02Hole() {
         NightColander x = new NightColander();
         x.turn(2, 5);
         x.ream(6, 2);
@@ -97,7 +57,7 @@ public final class PromisesTest {
         t.due("P2 is not refused", x.count(7), 0);
     }
 
-    private static void turn() {
+    static void promise03Turn() {
         NightColander x = new NightColander();
         t.due("P3 was", x.turn(3, 7), 0);
         t.due("P3 was", x.turn(3, 2), 7);
@@ -110,7 +70,7 @@ public final class PromisesTest {
         t.due("P3 as it was", x.turn(3, 3), 2);
     }
 
-    private static void bucket() {
+    static void promise04Bucket() {
         NightColander x = new NightColander();
         t.due("P4 size 0", x.bucket(0, 0), -1);
         t.due("P4 size 100", x.bucket(100, 0), -1);
@@ -128,7 +88,7 @@ public final class PromisesTest {
         t.due("P4 barred does not matter", y.bucket(5, 5), 0);
     }
 
-    private static void of() {
+    static void promise05Of() {
         NightColander x = Trial.under("leaks field+bucket;pays level*10+field;bars if field=bucket+6");
         x.bucket(7, 2);
         x.bucket(30, 4);
@@ -153,7 +113,7 @@ public final class PromisesTest {
         }
     }
 
-    private static void wanted() {
+    static void promise06Wanted() {
         NightColander x = new NightColander();
         t.due("P6 was any", x.wanted(7, 400), NONE);
         t.due("P6 not refused", x.status(), 0);
@@ -167,7 +127,7 @@ public final class PromisesTest {
         t.due("P6 refused", x.count(7), 4);
     }
 
-    private static void flow() {
+    static void promise07Flow() {
         NightColander x = new NightColander();
         t.due("P7 flow", x.flow(4), 12);
         x.block(4, 1);
@@ -182,7 +142,7 @@ public final class PromisesTest {
         t.due("P7 most", y.flow(0), 396);
     }
 
-    private static void terms() {
+    static void promise08Terms() {
         NightColander x = new NightColander();
         int[] most = {999, 9, 9, 10};
         int[] first = {0, 3, 0, 1};
@@ -198,40 +158,70 @@ public final class PromisesTest {
         t.due("P8 refused", x.count(7), 10);
     }
 
-    private static void tape() {
+    static void promise09Feed() {
         NightColander x = new NightColander();
+        x.feed(0x00010203, 0x040501FF, 0, 0, 0);
+        t.due("P9 twenty bytes", x.count(6), 20);
+        x.end(6);
+        t.due("P9 highest byte first", x.row(), 2);
+        t.due("P9 bore of (0, 1)", x.hole(0, 1, 0), 2);
+        t.due("P9 bore of (3, 4)", x.hole(3, 4, 0), 5);
         for (int i = 1; i <= 20; i++) {
             t.due("P9 fed", x.feed(0x00010203, 0, 0, 0, -1), 20 * i);
         }
         t.due("P9 full", x.feed(0, 0, 0, 0, 0), NONE);
         t.due("P9 as it was", x.count(6), 400);
-        t.due("P10 too many", x.end(401), NONE);
-        t.due("P10 below 0", x.end(-1), NONE);
-        t.due("P10 all", x.end(400), 400);
-        t.due("P10 some", x.end(381), 381);
+        x.end(381);
         t.due("P9 one too many", x.feed(0, 0, 0, 0, 0), NONE);
-        t.due("P10 no longer so many", x.end(382), NONE);
-        t.due("P10", x.end(380), 380);
+        x.end(380);
         t.due("P9 room again", x.feed(0, 0, 0, 0, 0), 400);
-        t.due("P10 none", x.end(0), 0);
-        t.due("P10 bytes", x.count(6), 0);
-        t.due("P9 P10 status", x.status(), 0);
-        t.due("P9 P10 not refused", x.count(7), 0);
-        x.feed(0x00010203, 0x040501FF, 0, 0, 0);
-        x.end(6);
-        t.due("P9 highest byte first", x.row(), 2);
-        t.due("P9 bore of (0, 1)", x.hole(0, 1, 0), 2);
-        t.due("P9 bore of (3, 4)", x.hole(3, 4, 0), 5);
+        t.due("P9 status", x.status(), 0);
+        t.due("P9 not refused", x.count(7) + x.count(10), 0);
     }
 
-    private static void row() {
+    // The numbers of four bytes each follow one another on the tape.
+    static void promise09NumbersInOrder() {
+        NightColander x = new NightColander();
+        x.feed(0x00000100, 0x01020002, 0x03000304, 0x01000501, 0x01060102);
+        t.due("P9 bytes", x.row(), 6);
+        int[] bores = {x.hole(0, 0, 0), x.hole(0, 1, 0), x.hole(0, 2, 0), x.hole(0, 3, 0), x.hole(1, 0, 0), x.hole(1, 1, 0)};
+        for (int i = 0; i < bores.length; i++) {
+            t.due("P9 bore " + i, bores[i], i + 1);
+        }
+    }
+
+    static void promise10End() {
+        NightColander x = new NightColander();
+        t.due("P10 of nothing", x.end(0), 0);
+        t.due("P10 more than nothing", x.end(1), NONE);
+        for (int i = 0; i < 20; i++) {
+            x.feed(0, 0, 0, 0, 0);
+        }
+        t.due("P10 too many", x.end(401), NONE);
+        t.due("P10 below 0", x.end(-1), NONE);
+        for (int w : WRONG) {
+            t.due("P10 end " + w, x.end(w), NONE);
+        }
+        t.due("P10 as it was", x.count(6), 400);
+        t.due("P10 all", x.end(400), 400);
+        t.due("P10 some", x.end(381), 381);
+        t.due("P10 bytes", x.count(6), 381);
+        t.due("P10 no longer so many", x.end(382), NONE);
+        t.due("P10 none", x.end(0), 0);
+        t.due("P10 bytes", x.count(6), 0);
+        t.due("P10 status", x.status(), 0);
+        t.due("P10 not refused", x.count(7), 0);
+        Trial.feed(x, "pass;pass;pass");
+        x.end(9);
+        t.due("P10 its first bytes", x.orders(), 2);
+    }
+
+    static void promise11Row() {
         NightColander x = new NightColander();
         t.due("P11 empty", x.row(), -6);
-        t.due("P12 ahead of any", x.peas(), 0);
         x.block(7, 3);
         Trial.feed(x, 3, 7, 9, 0, 0, 0, 4, 0, 1, 0, 8, 1, 0, 1, 10, 255, 0, 0, 1, 2);
         t.due("P11 told", x.row(), 2);
-        t.due("P12 peas", x.peas(), 5);
         t.due("P11 bore", x.hole(3, 7, 0), 9);
         t.due("P11 not blocked", x.hole(3, 7, 1), 0);
         t.due("P11 bore 0", x.hole(0, 0, 0), 0);
@@ -240,20 +230,35 @@ public final class PromisesTest {
         t.due("P11 the tape", x.count(6), 0);
         t.due("P11 nothing can be undone", x.undo(), -3);
         t.due("P11 empty", x.row(), -6);
-        t.due("P12 of the latest not refused", x.peas(), 5);
         x.block(0, 0);
         Trial.feed(x, 9);
         t.due("P11 a pea alone", x.row(), 0);
-        t.due("P12 a pea alone", x.peas(), 1);
         t.due("P11 a pea alone is not refused", x.status(), 0);
         t.due("P11 a pea alone clears, too", x.count(5), 0);
         Trial.feed(x, 1, 1, 5, 1, 1, 6);
         t.due("P11 twice", x.row(), 2);
-        t.due("P12 none", x.peas(), 0);
         t.due("P11 the later one", x.hole(1, 1, 0), 6);
     }
 
-    private static void law() {
+    static void promise12Peas() {
+        NightColander x = new NightColander();
+        t.due("P12 ahead of any", x.peas(), 0);
+        x.row();
+        t.due("P12 ahead of any that was not refused", x.peas(), 0);
+        Trial.feed(x, 3, 7, 9, 0, 0, 0, 4, 0, 1, 0, 8, 1, 0, 1, 10, 255, 0, 0, 1, 2);
+        x.row();
+        t.due("P12 five", x.peas(), 5);
+        x.row();
+        t.due("P12 of the latest not refused", x.peas(), 5);
+        Trial.feed(x, 9);
+        x.row();
+        t.due("P12 one within which the tape ends", x.peas(), 1);
+        Trial.feed(x, 1, 1, 5, 1, 1, 6);
+        x.row();
+        t.due("P12 none", x.peas(), 0);
+    }
+
+    static void promise13Law() {
         NightColander x = new NightColander();
         for (int i = 0; i < 6; i++) {
             t.due("P13 number", Trial.law(x, "runs " + i), i);
@@ -278,7 +283,7 @@ public final class PromisesTest {
         t.due("P13 laws of '" + text + "'", x.count(4), place == NONE ? 1 : 0);
     }
 
-    private static void lawFaults() {
+    static void promise13Faults() {
         fault("", 0);
         fault("   ", 3);
         fault("runs", 4);
@@ -337,7 +342,7 @@ public final class PromisesTest {
         return text.repeat(often);
     }
 
-    private static void lawLimits() {
+    static void promise13Limits() {
         String twelve = "bars" + times(";bars", 11);
         fault(twelve, NONE);
         fault(twelve + ";", 60);
@@ -373,7 +378,7 @@ public final class PromisesTest {
         t.due("P13 P2 runs 50 if " + test, Trial.under("runs 50 if " + test).hole(2, 5, 3), due ? 50 : 3);
     }
 
-    private static void sumsAndTests() {
+    static void promise13SumsAndTests() {
         runs("7", 7);
         runs("99", 99);
         runs("100", 99);
@@ -425,7 +430,7 @@ public final class PromisesTest {
         so("1000*1000*1000+1>1", false);
     }
 
-    private static void clausesThatHold() {
+    static void promise13ClausesThatHold() {
         NightColander x = Trial.under("runs 1;runs 2 if hole=1;runs 1/0 if hole=1;runs 4 if 1/0=1;runs 5 if hole=2;leaks 20;leaks 4 if level<5;pays 1000;pays 7 if field<3;bars if bucket=0 and field=6;bars if 1/0=1;bars if field=7");
         t.due("II the last that holds", x.hole(0, 0, 3), 1);
         t.due("II the last that is not broken", x.hole(0, 1, 3), 2);
@@ -453,7 +458,7 @@ public final class PromisesTest {
         t.due("II pays nearest", z.of(0, 4), 0);
     }
 
-    private static void orders() {
+    static void promise14Orders() {
         NightColander x = new NightColander();
         x.bucket(99, 0);
         t.due("P14 run", Trial.orders(x, "pass times 3;block 1+1 of 3;ream 2*3 of 0 times 2;set 0 at 5"), 7);
@@ -504,7 +509,7 @@ public final class PromisesTest {
         t.due("P14 tape", x.count(6), 0);
     }
 
-    private static void ordersThatStop() {
+    static void promise14OneCannotBe() {
         NightColander x = new NightColander();
         x.bucket(99, 0);
         x.bucket(99, 1);
@@ -547,7 +552,7 @@ public final class PromisesTest {
         t.due("P14 tape of '" + text + "'", x.count(6), 0);
     }
 
-    private static void orderFaults() {
+    static void promise14Faults() {
         orderFault("", 0);
         orderFault("  ", 2);
         orderFault("runs 1", 0);
@@ -592,7 +597,48 @@ public final class PromisesTest {
         orderFault(twelve + ";pass", 60);
     }
 
-    private static void force() {
+    static void promise15Fault() {
+        NightColander x = new NightColander();
+        t.due("P15 ahead of any", x.fault(), NONE);
+        Trial.law(x, "runs 1 2");
+        t.due("P15 of law()", x.fault(), 7);
+        Trial.orders(x, "  walk");
+        t.due("P15 of orders()", x.fault(), 2);
+        Trial.orders(x, "block 9 of 9");
+        t.due("P15 none in one that can't be", x.fault(), NONE);
+        Trial.law(x, "runs 1 if");
+        t.due("P15 the end's", x.fault(), 9);
+        Trial.law(x, "runs 1");
+        t.due("P15 none", x.fault(), NONE);
+        for (int i = 1; i < 6; i++) {
+            Trial.law(x, "runs 1");
+        }
+        Trial.orders(x, "pass pass");
+        t.due("P15 no room", Trial.law(x, "runs runs"), -5);
+        t.due("P15 of the latest that read a text", x.fault(), 5);
+        Trial.feed(x, 1, 1, 1);
+        x.row();
+        t.due("P15 a row leaves it", x.fault(), 5);
+    }
+
+    static void promise16Stopped() {
+        NightColander x = new NightColander();
+        t.due("P16 ahead of any", x.stopped(), NONE);
+        Trial.orders(x, "pass;pass;block 8 of 0;pass");
+        t.due("P16 the third", x.stopped(), 2);
+        Trial.law(x, "runs runs");
+        t.due("P16 a law leaves it", x.stopped(), 2);
+        Trial.orders(x, "ream 0 of 0 times 9;pass");
+        t.due("P16 the first, at its ninth time", x.stopped(), 0);
+        Trial.orders(x, "pass");
+        t.due("P16 none", x.stopped(), NONE);
+        Trial.orders(x, "pass;pass;pass;pass;pass;pass;pass;pass;pass;pass;pass;set 0 at 0");
+        t.due("P16 the twelfth", x.stopped(), 11);
+        Trial.orders(x, "pass pass");
+        t.due("P16 none by a fault", x.stopped(), NONE);
+    }
+
+    static void promise17Force() {
         NightColander x = new NightColander();
         t.due("P17 no law", x.force(0), -2);
         t.due("P17 none", x.force(NONE), NONE);
@@ -610,7 +656,7 @@ public final class PromisesTest {
         t.due("P17 refused", x.count(8), 3);
     }
 
-    private static void block() {
+    static void promise18Block() {
         NightColander x = new NightColander();
         t.due("P18", x.block(7, 3), 1);
         t.due("P18 blocked", x.hole(3, 7, 1), 1);
@@ -622,7 +668,7 @@ public final class PromisesTest {
         t.due("P18 kept", x.count(5), 2);
     }
 
-    private static void ream() {
+    static void promise19Ream() {
         NightColander x = new NightColander();
         for (int bore = 2; bore <= 9; bore++) {
             t.due("P19", x.ream(2, 1), bore);
@@ -637,7 +683,7 @@ public final class PromisesTest {
         t.due("P19 blocked, too", x.ream(0, 0), 2);
     }
 
-    private static void set() {
+    static void promise20Set() {
         NightColander x = Trial.under("bars if field=bucket+4");
         t.due("P20 no bucket", x.set(0, 0), -2);
         t.due("P20 field ahead of bucket", x.set(0, 8), -1);
@@ -658,7 +704,7 @@ public final class PromisesTest {
         }
     }
 
-    private static void pass() {
+    static void promise21Pass() {
         NightColander x = Trial.under("runs hour+1;leaks level/4+hour");
         x.bucket(99, 0);
         x.bucket(10, 3);
@@ -685,7 +731,7 @@ public final class PromisesTest {
         t.due("P21 turned", z.hole(3, 7, 2), 3);
     }
 
-    private static void undo() {
+    static void promise22Undo() {
         NightColander x = new NightColander();
         t.due("P22 none", x.undo(), -3);
         x.bucket(20, 0);
@@ -745,7 +791,7 @@ public final class PromisesTest {
         t.due("P22 behind back()", x.undo(), -3);
     }
 
-    private static void undoKeepsSixteen() {
+    static void promise22KeepsSixteen() {
         NightColander x = new NightColander();
         x.bucket(99, 0);
         for (int i = 0; i < 20; i++) {
@@ -769,7 +815,7 @@ public final class PromisesTest {
         t.due("P22 as ahead", x.count(2), 0);
     }
 
-    private static void when() {
+    static void promise23When() {
         NightColander x = new NightColander();
         t.due("P23 now", x.when(0, 12), 0);
         t.due("P23 never", x.when(0, 13), NONE);
@@ -792,7 +838,7 @@ public final class PromisesTest {
         t.due("P23 400", y.when(0, 400), NONE);
     }
 
-    private static void placed() {
+    static void promise24Placed() {
         NightColander x = new NightColander();
         t.due("P24 without buckets", x.placed(9, 0), 0);
         t.due("P24 no bucket", x.placed(9, 1), NONE);
@@ -831,7 +877,7 @@ public final class PromisesTest {
         t.due("P24 field 2 now", z.placed(4, 2), 2);
     }
 
-    private static void seenAndSettings() {
+    static void promise25Seen() {
         NightColander x = new NightColander();
         t.due("P25 field 8", x.seen(8, 0), -1);
         t.due("P25 field -1", x.seen(-1, 0), -1);
@@ -843,9 +889,30 @@ public final class PromisesTest {
         t.due("P25 no room", x.seen(0, 12), -5);
         t.due("P25 number ahead of room", x.seen(8, 12), -1);
         t.due("P25 count", x.count(3), 6);
-        t.due("P26 how often", x.forget(), 6);
+        for (int w : WRONG) {
+            t.due("P25 field " + w, x.seen(w, 0), -1);
+            t.due("P25 threads " + w, x.seen(0, w), -1);
+        }
+        t.due("P25 as it was", x.count(3), 6);
+    }
+
+    static void promise26Forget() {
+        NightColander x = new NightColander();
+        t.due("P26 nothing", x.forget(), 0);
+        x.seen(0, 5);
+        x.seen(1, 5);
+        t.due("P26 can't be", x.settings(NONE), 0);
+        t.due("P26 refused", x.seen(8, 5), -1);
+        t.due("P26 how often", x.forget(), 2);
+        t.due("P26 count", x.count(3), 0);
+        t.due("P26 all again", x.settings(NONE), 4096);
         t.due("P26 nothing then", x.forget(), 0);
         t.due("P26 status as it was", x.status(), -1);
+        t.due("P26 room again", x.seen(2, 12), 1);
+    }
+
+    static void promise27Settings() {
+        NightColander x = new NightColander();
         t.due("P27 all", x.settings(NONE), 4096);
         t.due("P27 8th", x.settings(8), 10);
         t.due("P27 last", x.settings(4095), 7777);
@@ -876,7 +943,7 @@ public final class PromisesTest {
         t.due("P27 hour as now", y.settings(NONE), 4096);
     }
 
-    private static void look() {
+    static void promise28Look() {
         NightColander x = new NightColander();
         t.due("P28 field", x.look(0), 0);
         t.due("P28 left", x.look(1), 4096);
@@ -897,7 +964,7 @@ public final class PromisesTest {
         t.due("P28 none", x.look(1), NONE);
     }
 
-    private static void turned() {
+    static void promise29Turned() {
         NightColander x = new NightColander();
         x.turn(0, 7);
         t.due("P29 none is wanted", x.turned(NONE), 0);
@@ -937,7 +1004,7 @@ public final class PromisesTest {
         t.due("P29 the first as a row", z.turned(3), 1);
     }
 
-    private static void cleared() {
+    static void promise30Cleared() {
         NightColander x = new NightColander();
         for (int r = 0; r < 4; r++) {
             x.block(5, r);
@@ -966,7 +1033,7 @@ public final class PromisesTest {
         t.due("P30 not what runs", x.cleared(5, 9, 1), 8);
     }
 
-    private static void drought() {
+    static void promise31Drought() {
         NightColander x = Trial.under("runs 0");
         t.due("P31 all", x.drought(3), 60);
         t.due("P31 field 8", x.drought(8), NONE);
@@ -980,7 +1047,7 @@ public final class PromisesTest {
         t.due("P31 beyond hour 999", z.drought(0), 60);
     }
 
-    private static void luck() {
+    static void promise32Luck() {
         NightColander x = new NightColander();
         t.due("P32 alike", x.luck(0), 0);
         x.ream(2, 2);
@@ -992,7 +1059,7 @@ public final class PromisesTest {
         t.due("P32 field -1", x.luck(-1), NONE);
     }
 
-    private static void together() {
+    static void promise33Together() {
         NightColander x = new NightColander();
         int[][] due = {{-1, 8, 4, 8}, {8, -1, 8, 4}, {4, 8, -1, 8}, {8, 4, 8, -1}};
         for (int one = 0; one < 4; one++) {
@@ -1005,7 +1072,7 @@ public final class PromisesTest {
         t.due("P33 both", x.together(4, 4), NONE);
     }
 
-    private static void settled() {
+    static void promise34Settled() {
         NightColander x = new NightColander();
         t.due("P34 none", x.settled(0), NONE);
         x.bucket(9, 0);
@@ -1022,7 +1089,7 @@ public final class PromisesTest {
         t.due("P34 nothing is done", x.of(0, 1), 9);
     }
 
-    private static void few() {
+    static void promise35Few() {
         NightColander x = new NightColander();
         long whole = 1000000000000L;
         t.due("P35 no hole", x.few(1, 0), whole);
@@ -1049,7 +1116,7 @@ public final class PromisesTest {
         t.due("P35 n 100", x.few(1, 100), NONE);
     }
 
-    private static void worth() {
+    static void promise36Worth() {
         NightColander x = new NightColander();
         t.due("P36 nothing", x.worth(NONE), 0);
         t.due("P36 no law", x.worth(0), NONE);
@@ -1069,47 +1136,109 @@ public final class PromisesTest {
         t.due("P36 in force still", x.count(12), 1);
     }
 
-    private static void years() {
+    // By hand: from seed 0 the draws go by 12345, 628841, 621889: of ring 1 hole 1 is reamed.
+    static void promise37Years() {
         NightColander x = new NightColander();
-        t.due("P38 ahead of any", x.drawn(0, 0), NONE);
         x.bucket(99, 0);
         t.due("P37 seed -1", x.years(-1, 1), -1);
         t.due("P37 seed 1000001", x.years(1000001, 1), -1);
         t.due("P37 n 0", x.years(0, 0), -1);
         t.due("P37 n 61", x.years(0, 61), -1);
+        for (int w : WRONG) {
+            t.due("P37 n " + w, x.years(0, w), -1);
+        }
+        t.due("P37 refused", x.count(7), 4 + WRONG.length);
+        t.due("P37 caught", x.years(0, 1), 12);
+        x.set(0, 1);
+        t.due("P37 caught below the one that is reamed", x.years(0, 1), 15);
+        t.due("P37 bores", x.drawn(1, 0), 9);
+        t.due("P37 on paper", x.count(1) + x.count(13), 0);
+        t.due("P37 all draws", x.years(1000000, 60) >= 0 ? 1 : 0, 1);
+        x.terms(0, 999);
+        t.due("P37 at hour 999", x.years(7, 60), 0);
+        x.terms(0, 997);
+        x.years(1000000, 60);
+        t.due("P37 two hours", x.drawn(3, 1), 0);
+        t.due("P37 two hours", x.drawn(2, 1), 6);
+    }
+
+    // What the first hour draws from a seed: a ring, a hole, what is done.
+    private static int[] draws(long seed) {
+        int[] of = {4, 8, 3};
+        long s = seed;
+        for (int i = 0; i < of.length; i++) {
+            s = (s * 1103 + 12345) % 1000003;
+            of[i] = (int) (s % of[i]);
+        }
+        return of;
+    }
+
+    // The hole that is drawn is the one above the bucket: it is blocked, reamed, or nothing.
+    static void promise37WhatIsDrawn() {
+        boolean[] met = new boolean[3];
+        for (int seed = 0; seed < 9; seed++) {
+            int[] drawn = draws(seed);
+            met[drawn[2]] = true;
+            NightColander x = new NightColander();
+            x.bucket(99, drawn[1]);
+            int caught = drawn[2] == 0 ? 9 : drawn[2] == 1 ? 15 : 12;
+            t.due("P37 caught by " + seed, x.years(seed, 1), caught);
+            x.block(drawn[1], drawn[0]);
+            t.due("P37 cleared by " + seed, x.years(seed, 1), drawn[2] == 0 ? 12 : 9);
+            x.block(drawn[1], drawn[0]);
+            Trial.feed(x, drawn[0], drawn[1], 9);
+            x.row();
+            t.due("P37 can't be reamed by " + seed, x.years(seed, 1), drawn[2] == 0 ? 9 : 36);
+        }
+        t.due("P37 all three were met", met[0] && met[1] && met[2] ? 1 : 0, 1);
+    }
+
+    static void promise38Drawn() {
+        NightColander x = new NightColander();
+        t.due("P38 ahead of any", x.drawn(0, 0), NONE);
+        x.bucket(99, 0);
+        x.years(0, 61);
         t.due("P38 refused ones are not kept", x.drawn(0, 0), NONE);
-        // s: 12345, 629441 ... by hand: ring 12345 % 4 = 1.
-        long s = 12345;
-        int ring = (int) (s % 4);
-        s = (s * 1103 + 12345) % 1000003;
-        int hole = (int) (s % 8);
-        s = (s * 1103 + 12345) % 1000003;
-        int what = (int) (s % 3);
-        int less = what == 0 && hole == 0 ? 3 : 0;
-        int more = what == 1 && hole == 0 ? 3 : 0;
-        t.due("P37 caught", x.years(0, 1), 12 - less + more);
-        t.due("P38 bores", x.drawn(ring, 0), what == 1 ? 9 : 8);
+        int[] drawn = draws(0);
+        int caught = x.years(0, 1);
+        t.due("P38 bores", x.drawn(drawn[0], 0), drawn[2] == 1 ? 9 : 8);
         t.due("P38 turn", x.drawn(3, 1), 4);
-        t.due("P38 level", x.drawn(0, 2), 12 - less + more);
+        t.due("P38 level", x.drawn(0, 2), caught);
         t.due("P38 ring 4", x.drawn(4, 0), NONE);
         t.due("P38 ring -1", x.drawn(-1, 1), NONE);
         t.due("P38 bucket 1", x.drawn(1, 2), NONE);
         t.due("P38 what 3", x.drawn(0, 3), NONE);
         t.due("P38 what -1", x.drawn(0, -1), NONE);
-        t.due("P37 on paper", x.count(1) + x.count(13), 0);
         x.bucket(5, 5);
         t.due("P38 as it was then", x.drawn(1, 2), NONE);
         x.terms(0, 999);
-        t.due("P37 at hour 999", x.years(7, 60), 0);
+        x.years(7, 60);
         t.due("P38 of the latest", x.drawn(3, 1), 0);
         t.due("P38 of the latest", x.drawn(1, 2), 0);
-        x.terms(0, 997);
-        t.due("P37 not refused", x.years(1000000, 60) >= 0 ? 1 : 0, 1);
-        t.due("P38 two hours", x.drawn(3, 1), 0);
-        t.due("P38 two hours", x.drawn(2, 1), 6);
     }
 
-    private static void images() {
+    static void promise39Image() {
+        NightColander x = new NightColander();
+        t.due("P39 2", x.image(2), -1);
+        t.due("P39 -1", x.image(-1), -1);
+        for (int w : WRONG) {
+            t.due("P39 image " + w, x.image(w), -1);
+        }
+        t.due("P39 nothing was kept", x.back(0) + x.back(1), -4);
+        x.block(6, 2);
+        x.ream(7, 3);
+        String ahead = Trial.all(x);
+        t.due("P39 kept", x.image(1), 0);
+        t.same("P39 all", Trial.all(x), ahead);
+        t.due("P39 the other is not", x.back(0), -2);
+        x.ream(7, 3);
+        t.due("P39 kept again", x.image(1), 0);
+        x.ream(7, 3);
+        x.back(1);
+        t.due("P39 the latest of that number", x.hole(3, 7, 0), 3);
+    }
+
+    static void promise40Back() {
         NightColander x = new NightColander();
         t.due("P39 2", x.image(2), -1);
         t.due("P39 -1", x.image(-1), -1);
@@ -1176,7 +1305,7 @@ public final class PromisesTest {
         t.due("P40 where orders stopped stays", x.stopped(), 1);
     }
 
-    private static void count() {
+    static void promise41Count() {
         NightColander x = new NightColander();
         x.turn(9, 9);
         x.turn(9, 9);
@@ -1212,7 +1341,7 @@ public final class PromisesTest {
         t.due("P41 what answers NONE is not refused", x.count(7), 2);
     }
 
-    private static void status() {
+    static void promise42Status() {
         NightColander x = new NightColander();
         x.turn(9, 0);
         t.due("P42 turn", x.status(), -1);
