@@ -14,6 +14,7 @@ final class Trial {
     private String about = "";
     private int asked = 0;
     private int wrong = 0;
+    private int told = 0;
 
     Trial(String name) {
         this.name = name;
@@ -35,7 +36,9 @@ final class Trial {
 
     private void tell(String fault) {
         wrong++;
-        if (wrong <= 40) {
+        told++;
+        // Of each method a few, so that the later promises can be seen, too.
+        if (told <= 10) {
             System.out.println(name + ": " + about + fault);
         }
     }
@@ -59,6 +62,7 @@ final class Trial {
             }
         }
         about = "";
+        told = 0;
         for (int promise = from; promise <= to; promise++) {
             due("promise " + promise + " has a test", often[promise] > 0 ? 1 : 0, 1);
         }
@@ -66,6 +70,7 @@ final class Trial {
 
     private void runOne(Method m) throws ReflectiveOperationException {
         about = m.getName() + ": ";
+        told = 0;
         int ahead = asked;
         try {
             m.invoke(null);
