@@ -964,6 +964,19 @@ public final class PromisesTest {
         t.due("P28 none", x.look(1), NONE);
     }
 
+    // Of ring 3 one turn alone fits, whichever it is: the other rings' 512 settings are left.
+    static void promise28OneTurnOfTheLastRing() {
+        for (int turn = 0; turn < 8; turn++) {
+            NightColander x = new NightColander();
+            x.ream(0, 3);
+            x.seen(turn, 15);
+            t.due("P28 settings", x.settings(NONE), 512);
+            t.due("P28 the last digit", x.settings(511), 7770 + turn);
+            t.due("P28 left by turn " + turn, x.look(1), 512);
+            t.due("P28 the lowest", x.look(0), 0);
+        }
+    }
+
     static void promise29Turned() {
         NightColander x = new NightColander();
         x.turn(0, 7);
